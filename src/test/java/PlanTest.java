@@ -141,6 +141,15 @@ public final class PlanTest {
         // By 9, 10, 11 loose grain ends as 31 29 (LEAN -1); with FAST 90 as 30 30.
         c.same("sacks", y.fitted(0, 0, 0, 6, 2, 5, 0), 41);
         c.same("sacks", y.fitted(0, 0, 0, 6, 2, 5, 1), 100);
+        // 38 38 by up to REST and 10: SACKS 3 or BOARD 40, for 120 each, let none go; less lets her be lost.
+        GrainShift z = new GrainShift();
+        Checks.tell(z, 0, "r5,w9");
+        Checks.tell(z, 1, "c2,h40");
+        Checks.tell(z, 2, "f76,t1");
+        z.set(0, 18);
+        z.set(2, 1);
+        c.same("of several the least sacks", z.fitted(0, 0, 0, 10, 9, 5, 0), 40);
+        c.same("of several the least sacks", z.fitted(0, 0, 0, 10, 9, 5, 1), 196);
     }
 
     private static void fittedOddColumns() {
@@ -155,6 +164,15 @@ public final class PlanTest {
         c.same("sacks", got > 0 ? 1 : 0, 1);
         c.same("no board", got % 41, 0);
         c.same("cost", x.fitted(0, 0, 0, 3, 2, 5, 1), 15 + 60 * (got / 41));
+        GrainShift y = new GrainShift();
+        Checks.tell(y, 0, "r5,w9");
+        Checks.tell(y, 1, "c3,h40");
+        Checks.tell(y, 2, "f114,t1");
+        y.set(0, 9);
+        y.set(2, 1);
+        c.same("the most sacks", y.fitted(0, 0, 0, 10, 9, 5, 0), 123);
+        c.same("the most sacks", y.fitted(0, 0, 0, 10, 9, 5, 1), 114 + 180);
+        c.same("four would do", y.fitted(0, 0, 0, 12, 9, 5, 0), -1);
     }
 
     private static void logs() {

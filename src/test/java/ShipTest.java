@@ -189,6 +189,13 @@ public final class ShipTest {
         c.row("eleven are 100, cut", w, 0, "1 11");
         c.same("TALL", w.column(0, 1, 1), 100);
         c.same("GAP", w.hold(0, 6), 0);
+        // SETTLED 10: TALL of 9 is 81, of 8 it is 72.
+        GrainShift v = Checks.loaded("r0,s10", "c2,h8", "f10,t1,k3");
+        for (int k = 0; k < 10; k++) {
+            v.day(0);
+        }
+        v.heel(40);
+        c.row("no ninth at 81 of 80", v, 0, "2 8");
     }
 
     private static void sweeps() {

@@ -48,10 +48,17 @@ public final class TextTest {
             c.same("full words", x.feed(0x20202020, 0x20202020, 0x20202020, 0x20202020, 0x20202020), 20 * k);
         }
         c.same("more than 160", x.feed(0, 0, 0, 0, 32), -1);
+        c.same("byte 1 is a byte", x.feed(0, 0, 0x01000000, 0, 0), -1);
+        c.same("byte 1 is a byte", x.feed(0, 0x100, 0, 0, 0), -1);
         c.same("160 as before", x.count(3), 160);
         c.same("none more", x.feed(0, 0, 0, 0, 0), 160);
         x.end(159);
         c.same("two are too many", x.feed(0x20000020, 0, 0, 0, 0), -1);
+        c.same("159 as before", x.count(3), 159);
+        c.same("two in other words", x.feed(0, 32, 32, 0, 0), -1);
+        c.same("two in other words", x.feed(0, 0, 0, 32, 32), -1);
+        c.same("two in one word", x.feed(0, 0, 0x2020, 0, 0), -1);
+        c.same("two in one word", x.feed(0, 0, 0, 0x202000, 0), -1);
         c.same("159 as before", x.count(3), 159);
         c.same("one may come", x.feed(0, 0, 0, 0, 0xE9), 160);
         c.same("a byte above 127", x.fault(0), 159);
@@ -93,6 +100,9 @@ public final class TextTest {
         c.fault(0, "r21,r", 2);
         c.fault(0, "r0021", 4);
         c.fault(0, "r2100", 4);
+        c.fault(0, "r0001", 4);
+        c.fault(0, "r00001", 4);
+        c.fault(0, "l0999", 4);
         c.fault(0, "l1000", 4);
         c.fault(0, "s31", 2);
         c.fault(0, "m31", 2);
@@ -213,6 +223,10 @@ public final class TextTest {
         c.fault(3, "y:((((((1>0))))))?1", -1);
         c.fault(3, "y:(((((((1>0)))))))?1", 8);
         c.fault(3, "y:!!!!!!1>0?1", -1);
+        c.fault(3, "y:1>[[[[[[1]]]]]]?1", -1);
+        c.fault(3, "y:1>[[[[[[[1]]]]]]]?1", 10);
+        c.fault(3, "y:(1>0&(1>0|(1>0&(1>0|(1>0&(1>0))))))?1", -1);
+        c.fault(3, "y:(1>0&(1>0|(1>0&(1>0|(1>0&(1>0&[1]>0))))))?1", 32);
         c.fault(3, "y:!!!!!![1]>0?1", 8);
         c.fault(3, "y:!(!([[1]]>0))?1", -1);
         c.fault(3, "y:!(!([[[1]]]>0))?1", 8);
@@ -256,10 +270,11 @@ public final class TextTest {
         GrainShift x = new GrainShift();
         Checks.tell(x, 0, "l7");
         Checks.tell(x, 0, "r20,s30,m29,l999,w9");
-        int[][] want = {{6, 0, 0, 7, 2}, {20, 30, 29, 999, 9}};
-        for (int s = -1; s <= 2; s++) {
+        Checks.tell(x, 0, "w1");
+        int[][] want = {{6, 0, 0, 7, 2}, {20, 30, 29, 999, 9}, {6, 0, 0, 500, 1}};
+        for (int s = -1; s <= 3; s++) {
             for (int w = -1; w <= 5; w++) {
-                boolean there = s >= 0 && s <= 1 && w >= 0 && w <= 4;
+                boolean there = s >= 0 && s <= 2 && w >= 0 && w <= 4;
                 int threw = 0;
                 int got = 0;
                 try {

@@ -8,6 +8,7 @@ public final class TriedTest {
         least();
         runs();
         ballast();
+        ballastByRolls();
         courses();
         best();
         c.finish();
@@ -68,6 +69,14 @@ public final class TriedTest {
         y.set(1, 1);
         c.same("LEAN 10 alone", y.least(), 0);
         c.row("she is as she was", y, 0, "5 5");
+        // The right column is full, LEAN 10 keeps the left from it: slope -30 and 10 of TALL are just enough.
+        GrainShift z = Checks.loaded("r20", "c2,h10", "f20,t1,k3");
+        z.take(0, 0, 1);
+        z.set(0, 10);
+        z.set(1, 10);
+        c.same("40", z.least(), 40);
+        z.set(1, 11);
+        c.same("41 would", z.least(), -1);
     }
 
     private static void runs() {
@@ -133,6 +142,43 @@ public final class TriedTest {
         c.same("-99", w.ballast(0), -99);
         c.same("as set", w.count(5), 0);
         c.same("two there still", w.column(3, 11, 0), 2);
+    }
+
+    /** By hand: her image, each BALLAST, three rolls. */
+    private static void ballastByRolls() {
+        // Chosen so that by 23 and 25 two, three and four rolls would each tell another BALLAST.
+        GrainShift x = Checks.loaded("r6,w8,m3,l189", "c11,h26", "f86,t1");
+        x.take(0, 1, 5);
+        x.set(0, 254);
+        x.set(2, 60);
+        x.set(1, 7);
+        for (int a = 0; a <= 40; a++) {
+            int said = x.ballast(a);
+            x.image();
+            int best = 0;
+            int least = byRolls(x, 0, a);
+            for (int b = -999; b <= 901; b += 100) {
+                int lean = byRolls(x, b, a);
+                if (lean < least) {
+                    least = lean;
+                    best = b;
+                } else if (lean == least && Math.abs(b) < Math.abs(best)) {
+                    best = b;
+                }
+            }
+            x.set(1, 7);
+            c.same("ballast(" + a + ")", said, best);
+        }
+    }
+
+    private static int byRolls(GrainShift x, int ballast, int a) {
+        x.set(1, ballast);
+        for (int k = 0; k < 3; k++) {
+            x.roll(a);
+        }
+        int lean = Math.abs(x.about(0));
+        x.back();
+        return lean;
     }
 
     private static void courses() {

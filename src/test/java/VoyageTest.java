@@ -127,6 +127,7 @@ public final class VoyageTest {
         GrainShift y = ripening();
         y.day(10);
         c.same("counted from now", y.soonest(10), gone - 1);
+        late();
         c.same("never", calm().soonest(30), -1);
         c.same("no such sea", y.soonest(31), -1);
         c.same("no such sea", y.soonest(-1), -1);
@@ -134,6 +135,25 @@ public final class VoyageTest {
         z.set(0, 1);
         z.set(1, 6);
         c.same("at once", z.soonest(0), 1);
+    }
+
+    /** A loss beyond 30 days is seen from the day on from which it is the 30th. */
+    private static void late() {
+        GrainShift x = Checks.loaded("r20,m1,l400,w9", "c2,h20", "f20,t1");
+        x.set(0, 9);
+        x.set(1, 4);
+        x.set(2, 10);
+        x.image();
+        int gone = 0;
+        while (x.about(3) == 0 && gone < 100) {
+            gone = x.day(0);
+        }
+        c.same("lost beyond 31 days", gone > 31 && gone < 100 ? 1 : 0, 1);
+        x.back();
+        for (int left = gone; left > 0; left--) {
+            c.same("soonest with " + left + " left", x.soonest(0), left <= 30 ? left : -1);
+            x.day(0);
+        }
     }
 
     private static void book() {
@@ -290,6 +310,16 @@ public final class VoyageTest {
         c.same("the least TURNED", x.better(0, 1, 1), 3);
         c.same("rules()", x.rules(), 4);
         c.same("BALLAST as it was", x.count(5), 1);
+        // Lost in some seeds (by what they shook) with LEANS less than those of a steady 24.
+        GrainShift y = calm();
+        y.set(0, 10);
+        Checks.tell(y, 3, "y:s>11?25;y:0");
+        Checks.tell(y, 3, "y:24");
+        int lost = y.follow(0, 0, 2, 5, 0);
+        c.same("some are lost", lost >= 1 && lost <= 4 ? 1 : 0, 1);
+        c.same("LEANS of these", y.follow(0, 0, 2, 5, 1), 25 * lost);
+        c.same("LEANS of the other", y.follow(1, 0, 2, 5, 1), 120);
+        c.same("the fewest LOST come first", y.better(0, 2, 5), 1);
         for (int[] b : new int[][] {{-1, 1, 1}, {31, 1, 1}, {0, 0, 1}, {0, 10, 1}, {0, 1, 0}, {0, 1, 6}}) {
             c.same("no such ones", x.better(b[0], b[1], b[2]), -1);
         }
