@@ -1,3 +1,5 @@
+import java.util.NoSuchElementException;
+
 /** What the project's tests share: comparing answers and telling texts byte by byte. */
 final class Checks {
     static final int NONE = GrainShift.NONE;
@@ -6,15 +8,39 @@ final class Checks {
     static final int SHIP = 1;
     static final int PLAN = 2;
     static final int RULE = 3;
+    /** Stands for the NoSuchElementException of stuff() where answers are compared as numbers. */
+    static final int THROWN = Integer.MIN_VALUE;
 
     private int wrong = 0;
     private int looked = 0;
+    private String held = "";
+
+    /** Words of a part of "Terms" that the checks behind this hold the class to; SentencesTest looks them up. */
+    void part(int part, String words) {
+        held = "part " + part + ", '" + words + "': ";
+    }
+
+    /** Words of a promise, likewise. */
+    void promise(int promise, String words) {
+        held = "promise " + promise + ", '" + words + "': ";
+    }
+
+    private void tellWrong(String what) {
+        wrong++;
+        System.out.println(held + what);
+    }
 
     void same(String call, long got, long want) {
         looked++;
         if (got != want) {
-            wrong++;
-            System.out.println(call + " answered " + got + ", due is " + want);
+            tellWrong(call + " answered " + got + ", due is " + want);
+        }
+    }
+
+    void differ(String call, long got, long other) {
+        looked++;
+        if (got == other) {
+            tellWrong(call + " answered " + got + ", due is another");
         }
     }
 
@@ -34,6 +60,18 @@ final class Checks {
         same("count(3) behind text of '" + text + "'", x.count(3), want == NONE ? 0 : text.length());
     }
 
+    void sound(int sort, String text) {
+        fault(sort, text, NONE);
+    }
+
+    /** A text is right and would go on: so would no sign that it doesn't know, wherever that stands. */
+    void faultAtEachStrangeSign(int sort, String text) {
+        sound(sort, text);
+        for (int at = 0; at <= text.length(); at++) {
+            fault(sort, text.substring(0, at) + (char) 255 + text.substring(at), at);
+        }
+    }
+
     void finish() {
         System.out.println(wrong == 0 ? looked + " answers are as due" : wrong + " answers are not as due");
         if (wrong != 0) {
@@ -49,12 +87,15 @@ final class Checks {
         return word;
     }
 
+    static int feed(GrainShift x, String part) {
+        return x.feed(word(part, 0), word(part, 4), word(part, 8), word(part, 12), word(part, 16));
+    }
+
     /** The tape is this text alone. */
     static void put(GrainShift x, String text) {
         x.end(0);
         for (int k = 0; k < text.length(); k += 20) {
-            String part = text.substring(k, Math.min(text.length(), k + 20));
-            x.feed(word(part, 0), word(part, 4), word(part, 8), word(part, 12), word(part, 16));
+            feed(x, text.substring(k, Math.min(text.length(), k + 20)));
         }
     }
 
@@ -63,7 +104,15 @@ final class Checks {
         return x.text(sort);
     }
 
-    /** A ship of one hold, loaded: the stuff, the ship and the plan as texts. */
+    static int stuffOrThrown(GrainShift x, int stuff, int what) {
+        try {
+            return x.stuff(stuff, what);
+        } catch (NoSuchElementException e) {
+            return THROWN;
+        }
+    }
+
+    /** A ship loaded by seed 0: the stuff, the ship and the plan as texts. */
     static GrainShift loaded(String stuff, String ship, String plan) {
         GrainShift x = new GrainShift();
         tell(x, STUFF, stuff);
@@ -71,6 +120,26 @@ final class Checks {
         tell(x, PLAN, plan);
         x.load(0, 0, 0L);
         return x;
+    }
+
+    /** No grain: LEAN is 10 times BALLAST by STIFF, whatever she does. */
+    static GrainShift calm() {
+        return loaded("r20", "c2,h10", "f0");
+    }
+
+    /** Calm, but behind a roll that lost her. */
+    static GrainShift lost() {
+        GrainShift x = calm();
+        x.set(0, 1);
+        x.set(1, 99);
+        x.roll(0);
+        return x;
+    }
+
+    static void days(GrainShift x, int n) {
+        for (int k = 0; k < n; k++) {
+            x.day(0);
+        }
     }
 
     /** UNITS of all columns of a hold, as one text. */
@@ -86,8 +155,7 @@ final class Checks {
         looked++;
         String got = row(x, hold);
         if (!got.equals(want)) {
-            wrong++;
-            System.out.println(what + ": hold " + hold + " has " + got + ", due is " + want);
+            tellWrong(what + ": hold " + hold + " has " + got + ", due is " + want);
         }
     }
 }

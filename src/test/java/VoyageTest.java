@@ -1,50 +1,24 @@
-/** Promises 41 to 48: ports, seeds, the soonest loss, the book, rules for ballast. */
+/** Part 6 from PORTS on and promises 41 to 45: ports, many seeds, the soonest loss, the book. */
 public final class VoyageTest {
     private static final Checks c = new Checks();
 
     public static void main(String[] args) {
-        refusedWithoutHer();
         ports();
         reach();
+        bestPort();
         over();
+        overAsSheIs();
         soonest();
+        soonestOfThirty();
         book();
-        follow();
-        letters();
-        arithmetic();
-        conditions();
-        better();
+        bookEitherWay();
+        bestTimes();
         c.finish();
     }
 
-    private static void refusedWithoutHer() {
-        GrainShift none = new GrainShift();
-        GrainShift lost = calm();
-        lost.set(1, 99);
-        lost.set(0, 1);
-        lost.roll(0);
-        for (GrainShift x : new GrainShift[] {none, lost}) {
-            Checks.tell(x, 3, "y:1");
-            x.port(1, 1);
-            c.same("reach", x.reach(0, 0), Checks.HIDDEN);
-            c.same("reach", x.reach(0, 1), Checks.HIDDEN);
-            c.same("over", x.over(0, 1, 1, 0), Checks.HIDDEN);
-            c.same("soonest", x.soonest(0), -1);
-            c.same("book", x.book(1), -1);
-            c.same("book", x.book(-1), -1);
-            c.same("follow", x.follow(0, 0, 1, 1, 0), Checks.HIDDEN);
-            c.same("better", x.better(0, 1, 1), -1);
-        }
-    }
-
-    /** No grain: LEAN is 10 times BALLAST by STIFF. */
-    private static GrainShift calm() {
-        return Checks.loaded("r20", "c2,h10", "f0");
-    }
-
     /** Soup from a SHAKEN of 100 on, with a slight list to the right, which then runs away with her. */
-    private static GrainShift ripening() {
-        GrainShift x = Checks.loaded("r20,m1,l100,w9", "c2,h20", "f20,t1");
+    private static GrainShift ripening(int line) {
+        GrainShift x = Checks.loaded("r20,m1,l" + line + ",w9", "c2,h20", "f20,t1");
         x.set(0, 9);
         x.set(1, 4);
         x.set(2, 10);
@@ -52,103 +26,160 @@ public final class VoyageTest {
     }
 
     private static void ports() {
+        c.part(6, "PORTS (6 at most): DAYS (1 .. 9) and WORTH (0 .. 9,999):");
         GrainShift x = new GrainShift();
-        for (int[] b : new int[][] {{0, 1}, {10, 1}, {1, -1}, {1, 10000}, {Integer.MIN_VALUE, 0}}) {
-            c.same("out of bounds", x.port(b[0], b[1]), -1);
-        }
+        c.promise(41, "A PORT: its number.");
         for (int k = 0; k < 6; k++) {
-            c.same("port", x.port(k % 2 == 0 ? 1 : 9, k % 2 == 0 ? 0 : 9999), k);
+            c.same("port", x.port(k % 2 == 0 ? 1 : 9, k % 3 == 0 ? 0 : 9999), k);
         }
+        c.promise(41, "NONE: out of bounds, there are six.");
         c.same("six are there", x.port(1, 1), -1);
+        GrainShift y = new GrainShift();
+        for (int[] b : new int[][] {{0, 1}, {10, 1}, {1, -1}, {1, 10000}, {9, 10000}, {10, 9999}, {Integer.MIN_VALUE, 0},
+            {Integer.MAX_VALUE, 0}, {1, Integer.MIN_VALUE}, {1, Integer.MAX_VALUE}}) {
+            c.same("port(" + b[0] + ", " + b[1] + ")", y.port(b[0], b[1]), -1);
+        }
+        c.same("none was kept", y.port(1, 1), 0);
     }
 
     private static void reach() {
-        GrainShift x = ripening();
-        c.same("no ports", x.reach(0, 0), 0);
-        c.same("no ports", x.reach(0, 1), -1);
+        c.part(6, "by a SEA, run from as she is: REACHED: PORTS at which she is not LOST by then;");
+        GrainShift x = ripening(100);
         int gone = x.soonest(10);
-        c.same("lost in a few days", gone >= 2 && gone <= 9 ? 1 : 0, 1);
+        c.yes("lost within a few days", gone >= 2 && gone < 9);
+        c.promise(42, "REACHED, as bits (what 0); BEST (1; NONE: none).");
+        c.same("no PORTS", x.reach(10, 0), 0);
+        c.same("no PORTS", x.reach(10, 1), -1);
         x.port(gone, 9999);
+        c.same("the day in which she is LOST", x.reach(10, 0), 0);
+        c.same("none", x.reach(10, 1), -1);
         x.port(gone - 1, 5);
         x.port(1, 5);
         x.port(9, 100);
-        c.same("reached", x.reach(10, 0), 2 + 4);
-        c.same("of several the lowest", x.reach(10, 1), 1);
-        x.port(gone - 1, 6);
-        c.same("the most WORTH", x.reach(10, 1), 4);
-        for (int[] b : new int[][] {{-1, 0}, {31, 0}, {0, 2}, {0, -1}}) {
-            c.same("no such ones", x.reach(b[0], b[1]), Checks.HIDDEN);
-        }
+        c.same("the day ahead of it", x.reach(10, 0), 2 + 4);
         c.same("she stayed", x.about(2), 0);
-        x.set(2, 4);
-        c.same("none reached", x.reach(10, 0), 0);
-        c.same("none reached", x.reach(10, 1), -1);
-        GrainShift y = calm();
-        y.port(1, 0);
-        c.same("WORTH 0", y.reach(0, 1), 0);
+        x.day(10);
+        c.same("from as she is", x.reach(10, 0), gone == 2 ? 0 : 4);
+        c.promise(42, "HIDDEN: no such ones, not loaded, LOST.");
+        for (int[] b : new int[][] {{-1, 0}, {31, 0}, {0, 2}, {0, -1}, {Integer.MAX_VALUE, 0}, {Integer.MIN_VALUE, 1}}) {
+            c.same("reach(" + b[0] + ", " + b[1] + ")", x.reach(b[0], b[1]), Checks.HIDDEN);
+        }
+        for (GrainShift y : new GrainShift[] {new GrainShift(), Checks.lost()}) {
+            y.port(1, 1);
+            c.same("not loaded, LOST", y.reach(0, 0), Checks.HIDDEN);
+            c.same("not loaded, LOST", y.reach(0, 1), Checks.HIDDEN);
+        }
+    }
+
+    private static void bestPort() {
+        c.part(6, "BEST of these: with the most WORTH (of several the lowest).");
+        GrainShift x = Checks.calm();
+        x.port(9, 0);
+        c.same("WORTH 0", x.reach(30, 1), 0);
+        x.port(1, 5);
+        x.port(5, 5);
+        c.same("of several the lowest", x.reach(0, 1), 1);
+        x.port(9, 9999);
+        x.port(9, 9998);
+        c.same("the most", x.reach(0, 1), 3);
+        x.port(1, 1);
+        c.same("all six", x.reach(30, 0), 63);
+        GrainShift y = ripening(100);
+        y.port(9, 9999);
+        y.port(1, 1);
+        c.same("only of these", y.reach(10, 1), 1);
     }
 
     private static void over() {
-        GrainShift x = calm();
+        c.part(6, "OVER n seeds (1 .. 20; 0 .. n less 1 as draws, from as she is) by a SEA and DAYS: how often LOST; the sum of LEANS; the greatest LEAN without sign.");
+        GrainShift x = Checks.calm();
         x.set(0, 10);
         x.set(1, -7);
+        c.promise(43, "OVER: how often LOST (0), the sum (1), the greatest (2).");
         c.same("lost", x.over(0, 1, 20, 0), 0);
         c.same("the sum with its sign", x.over(0, 1, 20, 1), -140);
-        c.same("the greatest without", x.over(0, 9, 1, 2), 7);
+        c.same("the greatest without", x.over(30, 9, 1, 2), 7);
         x.set(2, 7);
         c.same("all lost", x.over(0, 1, 20, 0), 20);
         c.same("the lost count in the sum", x.over(0, 1, 20, 1), -140);
+        c.same("she is not lost", x.about(3), 0);
+        // Draws of the first day come to more than 9 by all seeds but 1, 2, 8, 16 and 19.
+        GrainShift y = ripening(9);
+        int lost = 0;
+        for (int n = 1; n <= 20; n++) {
+            lost += n == 2 || n == 3 || n == 9 || n == 17 || n == 20 ? 0 : 1;
+            c.same("lost of " + n, y.over(0, 1, n, 0), lost);
+        }
+        c.promise(43, "HIDDEN: no such ones, not loaded, LOST.");
         for (int[] b : new int[][] {{-1, 1, 1, 0}, {31, 1, 1, 0}, {0, 0, 1, 0}, {0, 10, 1, 0}, {0, 1, 0, 0},
-            {0, 1, 21, 0}, {0, 1, 1, 3}, {0, 1, 1, -1}}) {
+            {0, 1, 21, 0}, {0, 1, 1, 3}, {0, 1, 1, -1}, {0, 1, Integer.MAX_VALUE, 0}}) {
             c.same("no such ones", x.over(b[0], b[1], b[2], b[3]), Checks.HIDDEN);
         }
-        c.same("she is not lost", x.about(3), 0);
-        // Seeds are the draws: one seed over is what a load by it and days come to.
-        GrainShift y = Checks.loaded("r3,w3", "c5,h20", "f60");
-        y.set(0, 20);
-        int sum = 0;
-        for (int seed = 0; seed < 4; seed++) {
-            y.load(0, 0, seed);
-            y.day(4);
-            y.day(4);
-            sum += y.about(0);
+        for (int what = 0; what < 3; what++) {
+            c.same("not loaded", new GrainShift().over(0, 1, 1, what), Checks.HIDDEN);
+            c.same("LOST", Checks.lost().over(0, 1, 1, what), Checks.HIDDEN);
         }
-        y.load(0, 0, 99);
-        c.same("sum over 4", y.over(4, 2, 4, 1), sum);
+    }
+
+    /** Seeds are the draws: each is what a load by it, the same roll and the days come to. */
+    private static void overAsSheIs() {
+        c.part(6, "OVER n seeds (1 .. 20; 0 .. n less 1 as draws, from as she is) by a SEA and DAYS: how often LOST; the sum of LEANS; the greatest LEAN without sign.");
+        GrainShift x = Checks.loaded("r3,s4,w3", "c5,h20", "f60");
+        x.set(0, 12);
+        int lost = 0;
+        int sum = 0;
+        int greatest = 0;
+        for (int seed = 0; seed < 20; seed++) {
+            x.load(0, 0, seed);
+            x.roll(7);
+            x.day(9);
+            x.day(9);
+            lost += x.about(3);
+            sum += x.about(0);
+            greatest = Math.max(greatest, Math.abs(x.about(0)));
+        }
+        x.load(0, 0, 99);
+        x.roll(7);
+        c.same("lost", x.over(9, 2, 20, 0), lost);
+        c.same("sum", x.over(9, 2, 20, 1), sum);
+        c.same("greatest", x.over(9, 2, 20, 2), greatest);
+        c.yes("they lean", sum != 0 && greatest > 1);
     }
 
     private static void soonest() {
-        GrainShift x = ripening();
+        c.part(6, "SOONEST: the DAY (1 .. 30) in which she is LOST by a SEA, run from as she is.");
+        GrainShift x = ripening(100);
         int gone = x.soonest(10);
         for (int day = 1; day <= gone; day++) {
             c.same("day", x.day(10), day);
             c.same("lost", x.about(3), day == gone ? 1 : 0);
         }
-        GrainShift y = ripening();
+        GrainShift y = ripening(100);
         y.day(10);
         c.same("counted from now", y.soonest(10), gone - 1);
-        late();
-        c.same("never", calm().soonest(30), -1);
-        c.same("no such sea", y.soonest(31), -1);
-        c.same("no such sea", y.soonest(-1), -1);
-        GrainShift z = calm();
+        GrainShift z = Checks.calm();
         z.set(0, 1);
         z.set(1, 6);
         c.same("at once", z.soonest(0), 1);
+        c.same("at once", z.soonest(30), 1);
+        c.promise(44, "SOONEST. NONE: not by 30, no such SEA, not loaded, LOST.");
+        for (int sea : new int[] {-1, 31, Integer.MIN_VALUE, Integer.MAX_VALUE}) {
+            c.same("soonest(" + sea + ")", z.soonest(sea), -1);
+        }
+        c.same("never", Checks.calm().soonest(30), -1);
+        c.same("not loaded", new GrainShift().soonest(0), -1);
+        c.same("LOST", Checks.lost().soonest(0), -1);
     }
 
     /** A loss beyond 30 days is seen from the day on from which it is the 30th. */
-    private static void late() {
-        GrainShift x = Checks.loaded("r20,m1,l400,w9", "c2,h20", "f20,t1");
-        x.set(0, 9);
-        x.set(1, 4);
-        x.set(2, 10);
+    private static void soonestOfThirty() {
+        GrainShift x = ripening(400);
         x.image();
         int gone = 0;
         while (x.about(3) == 0 && gone < 100) {
             gone = x.day(0);
         }
-        c.same("lost beyond 31 days", gone > 31 && gone < 100 ? 1 : 0, 1);
+        c.yes("lost beyond 31 days", gone > 31 && gone < 100);
         x.back();
         for (int left = gone; left > 0; left--) {
             c.same("soonest with " + left + " left", x.soonest(0), left <= 30 ? left : -1);
@@ -157,171 +188,74 @@ public final class VoyageTest {
     }
 
     private static void book() {
-        GrainShift x = calm();
-        x.set(2, 60);
+        c.part(6, "how far it is off, without sign, from LEAN behind a ROLL by a, in all eight together;");
+        GrainShift x = Checks.calm();
+        c.promise(45, "BOOK by TIMES (0 .. 99);");
         // At 0 the book says more: TIMES a by 10, cut; she stays at 0.
         c.same("TIMES 0", x.book(0), 0);
         c.same("TIMES 1: 0 1 1 2 2 3 3 4", x.book(1), 16);
         c.same("TIMES 10: 5 10 .. 40", x.book(10), 180);
         c.same("TIMES 99", x.book(99), 49 + 99 + 148 + 198 + 247 + 297 + 346 + 396);
-        c.same("the best", x.book(-1), 0);
         x.set(0, 10);
         x.set(1, -3);
-        c.same("further from 0", x.book(10), 180);
-        c.same("out of bounds", x.book(100), -1);
-        c.same("out of bounds", x.book(-2), -1);
-        // All grain goes over, and back, by any a; the best TIMES is the one the sums tell.
-        GrainShift y = Checks.loaded("r3,w9", "c4,h20", "f40,t1");
-        y.set(0, 30);
-        int best = 0;
-        for (int t = 1; t < 100; t++) {
-            best = y.book(t) < y.book(best) ? t : best;
+        c.same("as far off", x.book(10), 180);
+        c.promise(45, "NONE: no such ones, not loaded, LOST.");
+        for (int times : new int[] {100, -2, Integer.MIN_VALUE, Integer.MAX_VALUE}) {
+            c.same("book(" + times + ")", x.book(times), -1);
         }
-        c.same("the least, lowest", y.book(-1), best);
-        int off = 0;
-        for (int a = 5; a <= 40; a += 5) {
-            off += Math.abs(y.goes(a, 2) - 7 * a / 10);
+        for (int times : new int[] {-1, 0, 99}) {
+            c.same("not loaded", new GrainShift().book(times), -1);
+            c.same("LOST", Checks.lost().book(times), -1);
         }
-        c.same("from level: more", y.book(7), off);
     }
 
-    private static int turned(GrainShift x, String rule, int days) {
-        int number = Checks.tell(x, 3, rule);
-        return x.follow(number, 0, days, 1, 2);
+    /** Grain that goes over and back, leaning as the ballast has it. */
+    private static GrainShift going(int ballast) {
+        GrainShift x = Checks.loaded("r3,w9", "c4,h20", "f40,t1");
+        x.set(0, 30);
+        x.set(1, ballast);
+        return x;
     }
 
-    private static void follow() {
-        GrainShift x = calm();
-        x.set(0, 10);
-        x.set(1, 5);
-        c.same("rule", Checks.tell(x, 3, "y:d=0?20;y:d=1?0-4;y:9999"), 0);
-        c.same("15", x.follow(0, 0, 1, 1, 2), 15);
-        c.same("15 24", x.follow(0, 0, 2, 1, 2), 39);
-        c.same("LEAN -4", x.follow(0, 0, 2, 1, 1), 4);
-        c.same("held within 999", x.follow(0, 0, 3, 1, 2), 39 + 1003);
-        c.same("lost", x.follow(0, 0, 3, 1, 0), 1);
-        c.same("LEAN 999 in the end", x.follow(0, 0, 3, 1, 1), 999);
-        c.same("lost, it turns no more", x.follow(0, 0, 9, 1, 2), 39 + 1003);
-        c.same("seeds begin alike", x.follow(0, 0, 3, 5, 2), 5 * (39 + 1003));
-        c.same("seeds together", x.follow(0, 0, 3, 5, 1), 5 * 999);
-        c.same("how often", x.follow(0, 0, 3, 5, 0), 5);
-        c.same("BALLAST as it was", x.count(5), 5);
-        c.same("she as she was", x.about(2), 0);
-        for (int[] b : new int[][] {{1, 0, 1, 1, 0}, {-1, 0, 1, 1, 0}, {0, -1, 1, 1, 0}, {0, 31, 1, 1, 0},
-            {0, 0, 0, 1, 0}, {0, 0, 10, 1, 0}, {0, 0, 1, 0, 0}, {0, 0, 1, 6, 0}, {0, 0, 1, 1, 3}, {0, 0, 1, 1, -1}}) {
-            c.same("no such ones", x.follow(b[0], b[1], b[2], b[3], b[4]), Checks.HIDDEN);
+    private static void bookEitherWay() {
+        c.part(6, "BOOK: for a 5, 10, .. 40 the book says that a ROLL by a leaves LEAN less TIMES a by 10, cut, or more by that, whichever is further from 0 (at 0: more; TIMES 0 .. 99):");
+        for (int ballast : new int[] {-12, -3, -2, 0, 2, 3, 12}) {
+            GrainShift x = going(ballast);
+            int now = x.about(0);
+            c.same("LEAN", now, ballast / 3);
+            for (int times : new int[] {0, 1, 7, 13, 99}) {
+                int off = 0;
+                for (int a = 5; a <= 40; a += 5) {
+                    int said = now < 0 ? now - times * a / 10 : now + times * a / 10;
+                    off += Math.abs(said - x.goes(a, 2));
+                }
+                c.same("book(" + times + ") at " + now, x.book(times), off);
+            }
         }
-        x.day(0);
-        c.same("d is DAYS of hers", x.follow(0, 0, 1, 1, 2), 9);
-        c.same("none holds: 0", turned(x, "y:1>2?7", 1), 5);
+        c.yes("it moves", going(0).goes(40, 2) != 0);
     }
 
-    private static void letters() {
-        GrainShift x = Checks.loaded("r20,w9", "c12,h40", "f12,t1,k3");
-        x.set(0, 10);
-        x.set(2, 60);
-        x.pour(0, 11, 3);
-        // MOMENT 297, LEAN 29 with no BALLAST.
-        c.same("l", turned(x, "y:l", 1), 29);
-        c.same("m", turned(x, "y:m", 1), 2);
-        x.set(1, 3);
-        c.same("b and l of then", turned(x, "y:b+l", 1), 32);
-        x.set(0, 100);
-        x.roll(7);
-        c.same("s", turned(x, "y:s+b", 1), 7);
-        GrainShift y = calm();
-        Checks.tell(y, 3, "y:w");
-        c.same("w", y.follow(0, 13, 1, 1, 2), 13);
-        Checks.tell(y, 3, "y:d*10");
-        c.same("d", y.follow(1, 0, 3, 1, 2), 20);
-        GrainShift z = new GrainShift();
-        Checks.tell(z, 0, "r20,w9");
-        Checks.tell(z, 1, "c2,h20;c2,h20");
-        Checks.tell(z, 2, "f0;f0");
-        z.load(0, 0, 0);
-        z.pour(0, 0, 12);
-        z.pour(1, 0, 4);
-        // MOMENT -144 by 100 is -1.
-        c.same("m is cut towards 0", turned(z, "y:[m=0-1]", 1), Checks.HIDDEN);
-        c.same("m is cut towards 0", turned(z, "y:m=0-1?50", 1), 50);
-    }
-
-    private static void sum(String text, int want) {
-        GrainShift x = calm();
-        x.set(2, 60);
-        x.set(0, 9999);
-        c.same("sum " + text, turned(x, "y:" + text + "=" + want + "?77", 1), 77);
-    }
-
-    private static void arithmetic() {
-        sum("[1+2*3]", 7);
-        sum("[[1+2]*3]", 9);
-        sum("[9-3-2]", 4);
-        sum("[9-[3-2]]", 8);
-        sum("[100/7/2]", 7);
-        sum("[7/2*2]", 6);
-        sum("[5/0+1]", 1);
-        sum("[[0-7]/2+10]", 7);
-        sum("[9999*9999/1000]", 1000);
-        sum("[9999*9999-9999*9999]", 0);
-        sum("[[0-9999]*9999+999*1000+1007]", 7);
-        sum("[9999*100+9999-9999*100]", 100);
-        sum("[0-9999*100-9999+9999*100+107]", 7);
-    }
-
-    private static void condition(String text, boolean want) {
-        GrainShift x = calm();
-        x.set(0, 9999);
-        x.set(2, 60);
-        c.same("condition " + text, turned(x, "y:" + text + "?1;y:2", 1), want ? 1 : 2);
-    }
-
-    private static void conditions() {
-        condition("1=1", true);
-        condition("1=2", false);
-        condition("1<2", true);
-        condition("2<2", false);
-        condition("3>2", true);
-        condition("2>2", false);
-        condition("!1=1", false);
-        condition("!!1=1", true);
-        condition("1=1|1=1&1=2", true);
-        condition("(1=1|1=1)&1=2", false);
-        condition("!1=2&1=2", false);
-        condition("!(1=2&1=2)", true);
-        condition("1=2|1=2|1=1", true);
-        condition("1=1&1=1&1=2", false);
-        condition("1=2|!(1=1&(1=2|1=1))", false);
-        condition("0-5<0", true);
-    }
-
-    private static void better() {
-        GrainShift x = calm();
-        x.set(0, 10);
-        c.same("no rules", x.better(0, 1, 1), -1);
-        Checks.tell(x, 3, "y:30");
-        Checks.tell(x, 3, "y:24");
-        c.same("the other is lost", x.better(0, 1, 1), 1);
-        Checks.tell(x, 3, "y:0-3");
-        c.same("the least LEANS", x.better(0, 1, 1), 2);
-        Checks.tell(x, 3, "y:3");
-        c.same("of several the lowest", x.better(0, 1, 1), 2);
-        x.set(1, 1);
-        c.same("the least TURNED", x.better(0, 1, 1), 3);
-        c.same("rules()", x.rules(), 4);
-        c.same("BALLAST as it was", x.count(5), 1);
-        // Lost in some seeds (by what they shook) with LEANS less than those of a steady 24.
-        GrainShift y = calm();
-        y.set(0, 10);
-        Checks.tell(y, 3, "y:s>11?25;y:0");
-        Checks.tell(y, 3, "y:24");
-        int lost = y.follow(0, 0, 2, 5, 0);
-        c.same("some are lost", lost >= 1 && lost <= 4 ? 1 : 0, 1);
-        c.same("LEANS of these", y.follow(0, 0, 2, 5, 1), 25 * lost);
-        c.same("LEANS of the other", y.follow(1, 0, 2, 5, 1), 120);
-        c.same("the fewest LOST come first", y.better(0, 2, 5), 1);
-        for (int[] b : new int[][] {{-1, 1, 1}, {31, 1, 1}, {0, 0, 1}, {0, 10, 1}, {0, 1, 0}, {0, 1, 6}}) {
-            c.same("no such ones", x.better(b[0], b[1], b[2]), -1);
+    private static void bestTimes() {
+        c.part(6, "the TIMES with the least (of several the lowest).");
+        c.promise(45, "the best TIMES (NONE).");
+        c.same("calm", Checks.calm().book(-1), 0);
+        for (int ballast : new int[] {-12, 0, 12}) {
+            GrainShift y = going(ballast);
+            int best = 0;
+            for (int t = 1; t < 100; t++) {
+                best = y.book(t) < y.book(best) ? t : best;
+            }
+            c.same("the least, lowest", y.book(-1), best);
         }
+        // Here 15 and 16 are off alike and least.
+        GrainShift x = Checks.loaded("r0,w3", "c4,h20", "f40,t1");
+        x.set(0, 5);
+        c.same("15 and 16", x.book(15), x.book(16));
+        c.same("of several the lowest", x.book(-1), 15);
+        // All goes right and stays, LEAN comes to thousands, and no TIMES says enough.
+        GrainShift z = Checks.loaded("r0,w9", "c12,h40", "f240,t1");
+        z.set(0, 1);
+        z.set(1, 7);
+        c.same("the greatest TIMES", z.book(-1), 99);
     }
 }
