@@ -396,9 +396,12 @@ public final class HandsTest {
             {Integer.MAX_VALUE, 2, 1}, {0, Integer.MIN_VALUE, 1}, {0, 2, Integer.MIN_VALUE}}) {
             c.same("tilt(" + b[0] + ", " + b[1] + ", " + b[2] + ")", x.tilt(b[0], b[1], b[2]), -1);
         }
-        GrainShift y = Checks.loaded("r2,s9,m30,l0", "c2,h10", "f10,t1,b5,k3");
+        GrainShift y = Checks.loaded("r2,s9,m30,l0", "c2,h10", "f10,t1,b9,k3");
         c.same("no BOARD, no SACKS", y.tilt(0, 2, 5), 4);
+        y.goes(0, 0);
+        c.same("no BOARD, no SACKS of what was tried", y.tilt(0, 2, 5), 4);
         y.day(0);
+        y.goes(40, 0);
         c.same("settled and soup as she is", y.tilt(0, 2, 5), 4);
         c.same("it asks for no ship that floats", Checks.lost().tilt(0, 2, 5), 22);
     }
@@ -416,6 +419,10 @@ public final class HandsTest {
         c.same("by 39", x.ripens(0, 39), 2);
         x.roll(40);
         c.same("it is", x.ripens(0, 1), 0);
+        x.image();
+        x.roll(40);
+        c.same("it has been for long", x.ripens(0, 1), 0);
+        x.back();
         c.same("SHAKEN as it was", x.hold(0, 3), 51);
         GrainShift w = Checks.loaded("r0,m1,l0,w9", "c2,h10", "f10,t1");
         w.set(0, 1);

@@ -11,6 +11,7 @@ public final class PlanTest {
         fittedAtTheEnds();
         fittedTies();
         fittedOddColumns();
+        fittedAsPlansAre();
         logs();
         agree();
         agreeUntilLost();
@@ -230,6 +231,45 @@ public final class PlanTest {
         fittedAs(y, 0, 10, 9, 123, 114 + 180);
         fittedAs(y, 1, 10, 9, 123, 114 + 180);
         c.same("four sacks would do", y.fitted(0, 0, 0, 12, 9, 5, 0), -1);
+    }
+
+    /** Each board and each number of sacks told as a plan of its own, poured by it, then its voyages. */
+    private static void fittedAsPlansAre() {
+        c.part(4, "BOARD 0, 5, .. 40 and SACKS 0 .. 3 instead:");
+        String[][] told = {{"r2,w5", "c4,h20", "f40"}, {"r4,w9", "c5,h12", "f30"}, {"r1,w7,m1,l90", "c6,h20", "f70,t1"},
+            {"r3,w9", "c3,h30", "f33,b9"}, {"r0,w3", "c8,h9", "f20,k2"}};
+        int helped = 0;
+        for (String[] t : told) {
+            for (int stiff = 5; stiff <= 80; stiff += 25) {
+                for (int sea = 0; sea <= 12; sea += 3) {
+                    int best = -1;
+                    int least = -1;
+                    for (int k = 0; k < 36; k++) {
+                        String plan = t[2].replaceAll(",[bk]\\d", "") + ",b" + k % 9 * 5 + ",k" + k / 9;
+                        GrainShift x = voyager(t[0], t[1], plan, stiff);
+                        if (x.safe(0, 0, sea, 2, 3) == 3 && (best < 0 || x.cost(0, 0) < least)) {
+                            best = 41 * (k / 9) + k % 9 * 5;
+                            least = x.cost(0, 0);
+                        }
+                    }
+                    GrainShift x = voyager(t[0], t[1], t[2], stiff);
+                    c.same("fitted", x.fitted(0, 0, 0, sea, 2, 3, 0), best);
+                    c.same("cost", x.fitted(0, 0, 0, sea, 2, 3, 1), least);
+                    helped += best > 0 ? 1 : 0;
+                }
+            }
+        }
+        c.yes("boards and sacks helped at times", helped > 5);
+    }
+
+    private static GrainShift voyager(String stuff, String ship, String plan, int stiff) {
+        GrainShift x = new GrainShift();
+        Checks.tell(x, 0, stuff);
+        Checks.tell(x, 1, ship);
+        Checks.tell(x, 2, plan);
+        x.set(0, stiff);
+        x.set(2, 5);
+        return x;
     }
 
     private static void logs() {

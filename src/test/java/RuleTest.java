@@ -195,6 +195,16 @@ public final class RuleTest {
         c.fault(RULE, "y:(((((((1>0)))))))?1", 8);
         c.fault(RULE, "y:!!!!!!!1>0?1", 8);
         c.fault(RULE, "y:1>[[[[[[[1]]]]]]]?1", 10);
+        c.fault(RULE, "y:1>0?[[[[[[[1]]]]]]]", 12);
+        c.fault(RULE, "y:1>0&[[[[[[[1]]]]]]]>0?1", 12);
+        c.fault(RULE, "y:1>0|[[[[[[[1]]]]]]]>0?1", 12);
+        c.fault(RULE, "y:1>0&!!!!!!!1>0?1", 12);
+        c.fault(RULE, "y:1>0|(((((((1>0)))))))?1", 12);
+        c.fault(RULE, "y:!1>0&!!!!!!!1>0?1", 13);
+        c.fault(RULE, "y:(1>0)|(((((((1>0)))))))?1", 14);
+        c.fault(RULE, "y:1+[[[[[[[1]]]]]]]", 10);
+        c.fault(RULE, "y:1*[[[[[[[1]]]]]]]", 10);
+        c.fault(RULE, "y:0;y:[[[[[[[1]]]]]]]", 12);
         c.fault(RULE, "y:!!!!!![1]>0?1", 8);
         c.fault(RULE, "y:!!!!!!(1>0)?1", 8);
         c.fault(RULE, "y:((((((!1>0))))))?1", 8);
@@ -368,6 +378,7 @@ public final class RuleTest {
         c.same("s", turned(x, "y:s+b", 0, 1), 7);
         GrainShift y = Checks.calm();
         c.same("w", turned(y, "y:w", 13, 1), 13);
+        c.same("s is 0 ahead of all", turned(Checks.calm(), "y:s", 30, 1), 0);
         c.same("d", turned(y, "y:d*10", 0, 3), 20);
         // Draws 5 0 1 4: SHAKEN is 0 ahead of the first day and 10 ahead of the second.
         c.same("s ahead of each day", turned(y, "y:s", 0, 2), 10);

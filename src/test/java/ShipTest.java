@@ -355,6 +355,11 @@ public final class ShipTest {
         Checks.days(w, 9);
         w.heel(40);
         c.row("eleven are 100, cut", w, 0, "3 11");
+        // SETTLED 7: TALL of 13 is 120.9, cut; of 14 it is 130.
+        GrainShift u = Checks.loaded("r0,s7", "c2,h12", "f16,t1,k3");
+        Checks.days(u, 7);
+        u.heel(40);
+        c.row("thirteen are 120, cut", u, 0, "3 13");
         // SETTLED 10: TALL of 9 is 81, of 8 it is 72.
         GrainShift v = Checks.loaded("r0,s10", "c2,h8", "f10,t1,k3");
         Checks.days(v, 10);
@@ -627,6 +632,11 @@ public final class ShipTest {
         int[] then = {8, 0, 1, 10, 1, 0, 1};
         for (int what = 0; what < 7; what++) {
             c.same("hold(1, " + what + ") then", x.hold(1, what), then[what]);
+        }
+        for (int column = 0; column < 3; column++) {
+            GrainShift y = Checks.loaded("r20", "c3,h20", "f3,t1");
+            y.pour(0, column, 5);
+            c.same("the greatest TALL in " + column, y.hold(0, 6), 200 - 60);
         }
         c.same("GAP of none", Checks.loaded("r3", "c3,h40", "f0").hold(0, 6), 400);
         c.promise(14, "HIDDEN: no such ones, not loaded.");

@@ -99,6 +99,8 @@ public final class VoyageTest {
         c.same("lost", x.over(0, 1, 20, 0), 0);
         c.same("the sum with its sign", x.over(0, 1, 20, 1), -140);
         c.same("the greatest without", x.over(30, 9, 1, 2), 7);
+        c.same("none leans", Checks.calm().over(0, 1, 20, 2), 0);
+        c.same("none leans", Checks.calm().over(0, 1, 20, 1), 0);
         x.set(2, 7);
         c.same("all lost", x.over(0, 1, 20, 0), 20);
         c.same("the lost count in the sum", x.over(0, 1, 20, 1), -140);
@@ -239,14 +241,18 @@ public final class VoyageTest {
         c.part(6, "the TIMES with the least (of several the lowest).");
         c.promise(45, "the best TIMES (NONE).");
         c.same("calm", Checks.calm().book(-1), 0);
-        for (int ballast : new int[] {-12, 0, 12}) {
-            GrainShift y = going(ballast);
-            int best = 0;
-            for (int t = 1; t < 100; t++) {
-                best = y.book(t) < y.book(best) ? t : best;
-            }
-            c.same("the least, lowest", y.book(-1), best);
+        for (int ballast = -24; ballast <= 24; ballast += 3) {
+            leastOfAll(going(ballast));
+            GrainShift light = Checks.loaded("r" + Math.abs(ballast) % 5 + ",w1", "c4,h20", "f40,t1");
+            light.set(0, 20);
+            light.set(1, ballast);
+            leastOfAll(light);
         }
+        // Here 1 is least, and 0 is not.
+        GrainShift y = Checks.loaded("r0,w1", "c4,h20", "f40,t1");
+        y.set(0, 20);
+        y.set(1, -3);
+        c.same("the least but 0", y.book(-1), 1);
         // Here 15 and 16 are off alike and least.
         GrainShift x = Checks.loaded("r0,w3", "c4,h20", "f40,t1");
         x.set(0, 5);
@@ -257,5 +263,13 @@ public final class VoyageTest {
         z.set(0, 1);
         z.set(1, 7);
         c.same("the greatest TIMES", z.book(-1), 99);
+    }
+
+    private static void leastOfAll(GrainShift x) {
+        int best = 0;
+        for (int t = 1; t < 100; t++) {
+            best = x.book(t) < x.book(best) ? t : best;
+        }
+        c.same("the least, lowest at " + x.about(0), x.book(-1), best);
     }
 }
