@@ -253,12 +253,12 @@ public final class HandsTest {
         c.same("LEAN", z.about(0), -99);
         c.same("not LOST behind it", z.about(3), 0);
         c.same("no TICK", z.about(1), 0);
-        // FAST 290, LEAN 700 or so, held 60: D 600 and 10 lets 16 go, if so many lie there: the first goes over.
+        // FAST 290, LEAN 699, held 60: 21 20, D 610: 16 go; then 5 36: D 290: none.
         GrainShift w = Checks.loaded("r20,w1", "c2,h40", "f40,t1,k3");
         w.set(0, 1);
         w.set(1, 70);
         c.same("pour", w.pour(0, 0, 1), 1);
-        c.row("SLOPE held within 60: 16 go of 21", w, 0, "5 36");
+        c.row("SLOPE held within 60", w, 0, "5 36");
         // Only that hold goes to REST: the other has REST 0 and would go by a LEAN of 20.
         GrainShift v = Checks.loaded("r0,w1", "c2,h10;c2,h10", "f0;f10,t1");
         v.set(0, 1);
@@ -300,7 +300,7 @@ public final class HandsTest {
         c.row("another hold stays", z, 1, "5 5");
         c.same("not LOST behind it", z.about(3), 0);
         c.same("no TICK", z.about(1), 0);
-        // FAST 290, LEAN 700 or so, held 60: 19 20, D -10 and 600: 15 go; then 4 35: D 290: none.
+        // FAST 290, LEAN 701, held 60: 19 20, D 590: 15 go; then 4 35: D 290: none.
         GrainShift w = Checks.loaded("r20,w1", "c2,h40", "f40,t1,k3");
         w.set(0, 1);
         w.set(1, 70);

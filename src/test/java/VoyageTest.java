@@ -253,6 +253,12 @@ public final class VoyageTest {
         y.set(0, 20);
         y.set(1, -3);
         c.same("the least but 0", y.book(-1), 1);
+        // LEAN -1, and -2 where all goes over to the left: 0 is least, though it is off.
+        GrainShift w = Checks.loaded("r3,w1", "c4,h20", "f40,t1");
+        w.set(0, 90);
+        w.set(1, -10);
+        c.yes("0 is off", w.book(0) > 0);
+        c.same("0 is least", w.book(-1), 0);
         // Here 15 and 16 are off alike and least.
         GrainShift x = Checks.loaded("r0,w3", "c4,h20", "f40,t1");
         x.set(0, 5);
