@@ -103,6 +103,14 @@ public final class HandsTest {
     }
 
     private static void imageKeepsDraws() {
+        c.part(7, "BACK: she is so again.");
+        GrainShift y = Checks.loaded("r9,s2,m1,l30,w3", "c2,h10", "f10,t1");
+        y.image();
+        y.day(0);
+        y.back();
+        Checks.days(y, 5);
+        c.same("it settles as it did", y.hold(0, 2), 2);
+        c.same("its LINE is as it was", y.ripens(0, 1), 0);
         GrainShift x = Checks.calm();
         x.day(0);
         x.image();

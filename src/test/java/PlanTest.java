@@ -4,6 +4,7 @@ public final class PlanTest {
 
     public static void main(String[] args) {
         costs();
+        anyShipByAnyPlan();
         voyages();
         safe();
         cheapest();
@@ -45,6 +46,43 @@ public final class PlanTest {
         refused(x, new int[][] {{0, 1}, {1, 0}, {2, 1}, {-1, 0}, {3, 1}, {1, 6}, {0, -1}, {1, Integer.MAX_VALUE},
             {Integer.MIN_VALUE, 1}});
         c.same("nothing told", new GrainShift().cost(0, 0), -1);
+    }
+
+    /** Fewer stuffs and plans than ships, and not as many holds as the number of a ship would tell. */
+    private static void anyShipByAnyPlan() {
+        GrainShift x = new GrainShift();
+        Checks.tell(x, 0, "r20");
+        for (String ship : new String[] {"c2,h10", "c3,h10;c2,h10", "c2,h10;c3,h10;c4,h10"}) {
+            Checks.tell(x, 1, ship);
+        }
+        Checks.tell(x, 2, "f3,b1;f3,k1;f3,t1");
+        Checks.tell(x, 2, "f5,t1");
+        c.promise(10, "To LOAD.");
+        c.yes("load(2, 0)", x.load(2, 0, 0));
+        c.same("holds", x.about(4), 3);
+        c.row("the last hold", x, 2, "1 1 1 0");
+        c.yes("load(0, 1)", x.load(0, 1, 0));
+        c.same("holds", x.about(4), 1);
+        for (int[] b : new int[][] {{0, 0}, {1, 0}, {1, 1}, {2, 1}}) {
+            c.no("load(" + b[0] + ", " + b[1] + ")", x.load(b[0], b[1], 0));
+            c.same("cost", x.cost(b[0], b[1]), -1);
+        }
+        c.promise(22, "COST of a PLAN on a SHIP.");
+        c.same("cost(2, 0)", x.cost(2, 0), 3 + 60 + 3);
+        c.same("cost(0, 1)", x.cost(0, 1), 5);
+        c.promise(23, "SAFE. NONE: it can't be loaded, no such ones.");
+        c.same("safe(2, 0)", x.safe(2, 0, 0, 1, 1), 1);
+        c.promise(24, "CHEAPEST with at most so many LOST (0 .. 5). NONE: none, no such ones.");
+        c.same("of ship 2", x.cheapest(2, 0, 1, 1, 0), 0);
+        c.same("of ship 1", x.cheapest(1, 0, 1, 1, 5), -1);
+        c.same("of ship 0", x.cheapest(0, 0, 1, 1, 0), 1);
+        c.promise(25, "FITTED: 41 times SACKS and BOARD (what 0), COST (1). NONE: none, no such ones, it can't be loaded.");
+        int[] costs = {63, 6, 66};
+        for (int hold = 0; hold < 3; hold++) {
+            c.same("hold " + hold, x.fitted(2, 0, hold, 0, 1, 1, 1), costs[hold]);
+        }
+        c.same("no hold 3", x.fitted(2, 0, 3, 0, 1, 1, 1), -1);
+        c.same("no hold 1 of ship 0", x.fitted(0, 1, 1, 0, 1, 1, 1), -1);
     }
 
     /** A list of 4, and soup as soon as SHAKEN is above 9: by a sea of 0 she is lost on the first day by seeds 0, 3, 4. */

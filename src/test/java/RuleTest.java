@@ -22,6 +22,7 @@ public final class RuleTest {
         letters();
         followed();
         seedsBeginAlike();
+        followedByHand();
         outcomes();
         better();
         c.finish();
@@ -310,6 +311,10 @@ public final class RuleTest {
         truth("3>2", true);
         truth("2>2", false);
         truth("1>2", false);
+        truth("1=2&1=1", false);
+        truth("1=1&1=2", false);
+        truth("1=2|1=1", true);
+        truth("1=1|1=2", true);
         truth("!1=1", false);
         truth("!!1=1", true);
         truth("!!!1=1", false);
@@ -355,6 +360,8 @@ public final class RuleTest {
         Checks.tell(x, RULE, "y:0-9999");
         c.same("LEAN is -999", x.follow(0, 0, 1, 1, 1), 999);
         c.same("LOST on the first of nine days, it turns no more", x.follow(0, 0, 9, 1, 2), 999);
+        Checks.tell(x, RULE, "y:b+30");
+        c.same("though it would turn by 30 each day", x.follow(1, 0, 9, 1, 2), 30);
     }
 
     private static int turned(GrainShift x, String rule, int sea, int days) {
@@ -454,6 +461,47 @@ public final class RuleTest {
             sum += shaken[n - 1];
             c.same("SHAKEN of " + n, x.follow(1, 0, 2, n, 2), sum);
         }
+    }
+
+    /** Day by day: what the letters are then, the ballast set by it, a day. */
+    private static void followedByHand() {
+        c.part(7, "FOLLOWED from as she is, by a SEA (0 .. 30), for DAYS (1 .. 9), n seeds (1 .. 5; 0 .. n less 1 as draws):");
+        int leans = 0;
+        for (int sea = 0; sea <= 14; sea += 2) {
+            GrainShift x = Checks.loaded("r3,s4,m1,l90,w7", "c5,h20;c4,h20", "f60;f33");
+            x.set(0, 90);
+            int[] out = new int[3];
+            for (int seed = 0; seed < 3; seed++) {
+                byHand(x, seed, sea, 4, out);
+            }
+            x.set(1, 5);
+            Checks.tell(x, RULE, "y:l<0&m<0?0-l*7-m;y:!l>0?d*3-s;y:b-w-l*9");
+            x.load(0, 0, 77L);
+            x.roll(9);
+            for (int what = 0; what < 3; what++) {
+                c.same("follow by " + sea + ", " + what, x.follow(0, sea, 4, 3, what), out[what]);
+            }
+            leans += out[1];
+        }
+        c.yes("she leans", leans > 20);
+    }
+
+    private static void byHand(GrainShift x, int seed, int sea, int days, int[] out) {
+        int ballast = 5;
+        x.set(1, ballast);
+        x.load(0, 0, seed);
+        x.roll(9);
+        for (int day = 0; day < days && x.about(3) == 0; day++) {
+            int l = x.about(0);
+            int m = x.about(5) / 100;
+            int worth = l < 0 && m < 0 ? -l * 7 - m : l <= 0 ? x.about(2) * 3 - x.hold(0, 3) : ballast - sea - l * 9;
+            out[2] += Math.abs(worth - ballast);
+            ballast = worth;
+            x.set(1, ballast);
+            x.day(sea);
+        }
+        out[0] += x.about(3);
+        out[1] += Math.abs(x.about(0));
     }
 
     private static void outcomes() {

@@ -638,6 +638,9 @@ public final class ShipTest {
             y.pour(0, column, 5);
             c.same("the greatest TALL in " + column, y.hold(0, 6), 200 - 60);
         }
+        GrainShift z = Checks.loaded("r20", "c12,h4", "f0");
+        z.pour(0, 11, 3);
+        c.same("the greatest TALL in the last of more columns than it is high", z.hold(0, 6), 10);
         c.same("GAP of none", Checks.loaded("r3", "c3,h40", "f0").hold(0, 6), 400);
         c.promise(14, "HIDDEN: no such ones, not loaded.");
         for (int[] b : new int[][] {{0, -1}, {0, 7}, {2, 0}, {-1, 0}, {4, 0}, {Integer.MAX_VALUE, 0},
