@@ -466,35 +466,42 @@ public final class RuleTest {
     /** Day by day: what the letters are then, the ballast set by it, a day. */
     private static void followedByHand() {
         c.part(7, "FOLLOWED from as she is, by a SEA (0 .. 30), for DAYS (1 .. 9), n seeds (1 .. 5; 0 .. n less 1 as draws):");
-        int leans = 0;
-        for (int sea = 0; sea <= 14; sea += 2) {
-            GrainShift x = Checks.loaded("r3,s4,m1,l90,w7", "c5,h20;c4,h20", "f60;f33");
-            x.set(0, 90);
+        int moved = 0;
+        for (int sea = 0; sea <= 14; sea++) {
+            // Lost at once, and then not.
+            int stiff = sea == 0 ? 30 : 90;
+            GrainShift x = Checks.loaded("r1,s4,m1,l90,w9", "c5,h20;c4,h20", "f60;f33");
+            x.set(0, stiff);
+            x.set(2, 60);
             int[] out = new int[3];
             for (int seed = 0; seed < 3; seed++) {
-                byHand(x, seed, sea, 4, out);
+                moved += byHand(x, seed, sea, 4, out);
             }
             x.set(1, 5);
-            Checks.tell(x, RULE, "y:l<0&m<0?0-l*7-m;y:!l>0?d*3-s;y:b-w-l*9");
+            Checks.tell(x, RULE, "y:l<0&m<0?0-l*7-m;y:!l>0?d*3-s;y:b-w-l*9-m");
             x.load(0, 0, 77L);
             x.roll(9);
             for (int what = 0; what < 3; what++) {
                 c.same("follow by " + sea + ", " + what, x.follow(0, sea, 4, 3, what), out[what]);
             }
-            leans += out[1];
         }
-        c.yes("she leans", leans > 20);
+        c.yes("grain went between days", moved > 20);
     }
 
-    private static void byHand(GrainShift x, int seed, int sea, int days, int[] out) {
+    /** Adds to what comes; how often MOMENTS were others ahead of a day than ahead of the first. */
+    private static int byHand(GrainShift x, int seed, int sea, int days, int[] out) {
         int ballast = 5;
+        int moved = 0;
         x.set(1, ballast);
         x.load(0, 0, seed);
         x.roll(9);
+        int first = x.about(5);
         for (int day = 0; day < days && x.about(3) == 0; day++) {
             int l = x.about(0);
             int m = x.about(5) / 100;
-            int worth = l < 0 && m < 0 ? -l * 7 - m : l <= 0 ? x.about(2) * 3 - x.hold(0, 3) : ballast - sea - l * 9;
+            moved += x.about(5) != first ? 1 : 0;
+            int worth = l < 0 && m < 0 ? -l * 7 - m : l <= 0 ? x.about(2) * 3 - x.hold(0, 3) : ballast - sea - l * 9 - m;
+            worth = Math.max(-999, Math.min(999, worth));
             out[2] += Math.abs(worth - ballast);
             ballast = worth;
             x.set(1, ballast);
@@ -502,6 +509,7 @@ public final class RuleTest {
         }
         out[0] += x.about(3);
         out[1] += Math.abs(x.about(0));
+        return moved;
     }
 
     private static void outcomes() {
