@@ -95,13 +95,17 @@ public final class ModelTest {
     }
 
     private void prepare() {
-        int holds = 1 + below(3);
+        // Small numbers let more go; every fourth run draws from all that may be told.
+        boolean wide = run % 4 == 3;
+        int holds = 1 + below(wide ? 4 : 3);
         for (int k = 0; k < 3; k++) {
-            tell(0, "r" + below(9) + ",s" + below(31) + ",m" + below(6) + ",l" + below(1000) + ",w" + (1 + below(9)));
+            tell(0, "r" + below(wide ? 21 : 9) + ",s" + below(31) + ",m" + below(wide ? 31 : 6) + ",l" + below(1000)
+                    + ",w" + (1 + below(9)));
         }
         StringBuilder ship = new StringBuilder();
         for (int k = 0; k < holds; k++) {
-            ship.append(k == 0 ? "" : ";").append("c").append(2 + below(11)).append(",h").append(4 + below(20));
+            ship.append(k == 0 ? "" : ";").append("c").append(2 + below(11)).append(",h");
+            ship.append(4 + below(wide ? 37 : 20));
         }
         tell(1, ship.toString());
         for (int p = 0; p < 3; p++) {
@@ -111,7 +115,7 @@ public final class ModelTest {
                 plan.append(k == 0 ? "" : ";").append("g").append(below(3));
                 plan.append(",f").append(Math.min(480, below(room + 1 + (below(12) == 0 ? 9 : 0))));
                 plan.append(",t").append(below(2));
-                plan.append(",b").append(below(2) * below(12)).append(",k").append(below(3) / 2 * below(4));
+                plan.append(",b").append(below(2) * below(wide ? 41 : 12)).append(",k").append(below(3) / 2 * below(4));
             }
             tell(2, plan.toString());
         }
